@@ -576,6 +576,7 @@ public final class ColdPanes {
             }
         }
 
+        // This and isWhole test the index themselves, as LANGUAGE.md bounds how deep calls go.
         int heatAt(int cell) {
             return cell >= 0 && cell < CELLS ? heats[cell] : 0;
         }

@@ -13,6 +13,7 @@ public final class LookTest {
         strained();
         pieces();
         piecesWithinAPiece();
+        piecesRoundCorners();
         count();
         mean();
         lastJointCracked();
@@ -209,6 +210,27 @@ public final class LookTest {
         Check.dueMean("mean(20)", x.mean(20), 800.0);
     }
 
+    private static void piecesRoundCorners() {
+        ColdPanes x = Check.still();
+        // The last cell of the one hot piece is reached to the left alone, that of the other one upwards alone.
+        for (int cell : new int[] {1, 7, 6, 3, 9, 15, 16, 17, 11}) {
+            x.heat(cell, 200);
+        }
+        x.pass(60);
+        Check.due("cell(0, 1)", x.cell(0, 1), 0);
+        Check.due("cell(6, 1)", x.cell(6, 1), 1);
+        Check.due("cell(11, 1)", x.cell(11, 1), 3);
+        Check.due("cell(2, 1)", x.cell(2, 1), 2);
+        Check.due("cell(10, 1)", x.cell(10, 1), 4);
+        duePieces(x, 5);
+        ColdPanes y = Check.still();
+        y.scratch(30, 1);
+        y.heat(0, 50);
+        y.pass(1);
+        Check.due("joint(30, 2)", y.joint(30, 2), 0);
+        duePieces(y, 1);
+    }
+
     private static void count() {
         ColdPanes x = Check.still();
         x.aim(640, 30);
@@ -229,6 +251,19 @@ public final class LookTest {
         Check.due("cracked", x.count(6), 1);
         ColdPanes y = parted();
         Check.due("cells of the greatest piece", y.count(11), 24);
+        for (int cell : new int[] {0, 1, 2, 34, 35}) {
+            ColdPanes z = Check.still();
+            z.heat(cell, 8);
+            Check.due("count(7), the cell " + cell, z.count(7), 608);
+            Check.due("count(8), the cell " + cell, z.count(8), 600);
+            z.heat(cell, -15);
+            Check.due("count(7), the cell " + cell, z.count(7), 600);
+            Check.due("count(8), the cell " + cell, z.count(8), 593);
+        }
+        ColdPanes w = Check.still();
+        w.heat(0, 50);
+        w.heat(6, 40);
+        Check.due("count(9), the joint 0", w.count(9), 50);
     }
 
     private static void mean() {

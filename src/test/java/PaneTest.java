@@ -18,6 +18,7 @@ public final class PaneTest {
         noFlowOverCrackedJoints();
         crackOfTheMostStrained();
         weakening();
+        weakeningOfTheFirstJoint();
         scratch();
         mend();
         heat();
@@ -244,6 +245,18 @@ public final class PaneTest {
         Check.due("touched twice", x.joint(37, 3), 81);
         Check.due("beside neither", x.joint(6, 3), 150);
         Check.due("beside neither", x.joint(5, 3), 111);
+    }
+
+    private static void weakeningOfTheFirstJoint() {
+        ColdPanes x = Check.still();
+        x.scratch(30, 10);
+        x.heat(0, 99);
+        Check.due("pass(1)", x.pass(1), 1);
+        Check.due("joint(30, 2)", x.joint(30, 2), 0);
+        Check.due("joint(0, 3)", x.joint(0, 3), 90);
+        Check.due("joint(36, 3)", x.joint(36, 3), 90);
+        Check.due("joint(1, 3)", x.joint(1, 3), 100);
+        Check.due("joint(5, 3)", x.joint(5, 3), 90);
     }
 
     private static void scratch() {

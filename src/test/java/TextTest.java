@@ -135,6 +135,12 @@ public final class TextTest {
         Check.write(y, "h3;500/7x2");
         Check.due("run()", y.run(), 2);
         Check.due("a hold goes on to the aim", y.count(0), 464);
+        ColdPanes z = Check.still();
+        Check.write(z, "0/1x1;h2");
+        Check.due("run()", z.run(), 2);
+        Check.due("the aim 0", z.count(1), 0);
+        Check.due("the rate 1", z.count(2), 1);
+        Check.due("furnace", z.count(0), 597);
     }
 
     private static void runEndsBehindACrack() {

@@ -8,8 +8,10 @@ public final class WouldBeTest {
         ifPassedStress();
         ifPassedLoss();
         fastest();
+        fastestIsAtLeastOne();
         fastestWhereALesserRateHarms();
         evenIn();
+        evenInTheLastMinute();
         evenInByCracks();
         withoutWholeJoints();
         nothingIsChanged();
@@ -88,6 +90,16 @@ public final class WouldBeTest {
         Check.due("fastest without any", y.fastest(0, 1), NOTHING);
     }
 
+    private static void fastestIsAtLeastOne() {
+        ColdPanes x = new ColdPanes();
+        x.set(ColdPanes.LEAD, 0);
+        x.set(ColdPanes.RIM, 20);
+        x.scratch(31, 1);
+        // With the rate 1 the edge loses 1 a minute from the fifth one on; the cell within keeps its heat.
+        Check.due("fastest(0, 5)", x.fastest(0, 5), 1);
+        Check.due("fastest(0, 6): only a furnace that stays would do no harm", x.fastest(0, 6), NOTHING);
+    }
+
     private static void fastestWhereALesserRateHarms() {
         ColdPanes x = new ColdPanes();
         x.begin(500);
@@ -134,6 +146,22 @@ public final class WouldBeTest {
         int stress = y.joint(0, 4);
         Check.dueTrue("the corner is ahead of the edge", stress > 0);
         Check.due("behind 0 minutes", y.evenIn(y.count(9)), 0);
+    }
+
+    private static void evenInTheLastMinute() {
+        ColdPanes x = new ColdPanes();
+        x.set(ColdPanes.LEAD, 0);
+        x.set(ColdPanes.RIM, 20);
+        for (int row = 1; row <= 4; row++) {
+            for (int column = 1; column <= 4; column++) {
+                x.heat(6 * row + column, -100);
+            }
+        }
+        x.aim(450, 1);
+        // From the fifth minute on an edge is at 604 less the minutes; the cells within stay at 500.
+        Check.due("evenIn(30)", x.evenIn(30), 74);
+        Check.due("evenIn(5)", x.evenIn(5), 99);
+        Check.due("evenIn(4)", x.evenIn(4), NOTHING);
     }
 
     private static void evenInByCracks() {
