@@ -62,6 +62,14 @@ final class Check {
         return panes;
     }
 
+    static String repeated(String text, int times) {
+        StringBuilder all = new StringBuilder();
+        for (int time = 0; time < times; time++) {
+            all.append(text);
+        }
+        return all.toString();
+    }
+
     static void end() {
         System.out.println(looked + " answers, " + wrong + " not as due");
         if (wrong > 0) {

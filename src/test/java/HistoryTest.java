@@ -1,10 +1,9 @@
-/** Promises 22 to 24, and which calls are changes. */
+/** Promises 22 to 24. */
 public final class HistoryTest {
     private static final int IMPOSSIBLE = ColdPanes.NOT_POSSIBLE;
 
     public static void main(String[] arguments) {
         fourStates();
-        everyChangeIsUndone();
         whatIsNoChange();
         undoLeavesPadAndSnapshot();
         saveAndRestore();
@@ -29,54 +28,6 @@ public final class HistoryTest {
         x.begin(9);
         Check.due("undo()", x.undo(), 0);
         Check.due("furnace", x.count(0), 2);
-    }
-
-    private static void everyChangeIsUndone() {
-        for (int change = 0; change < 9; change++) {
-            ColdPanes x = Check.still();
-            x.heat(0, 120);
-            x.save();
-            x.pass(1);
-            x.aim(1, 2);
-            // A history that is not full tells whether a state was added.
-            Check.due("undo()", x.undo(), 3);
-            String before = picture(x);
-            make(x, change);
-            Check.due("states behind change " + change, x.count(16), 4);
-            Check.dueTrue("change " + change + " is to be seen", !picture(x).equals(before));
-            Check.due("undo() of change " + change, x.undo(), 3);
-            Check.dueTrue("change " + change + " is undone", picture(x).equals(before));
-        }
-    }
-
-    private static void make(ColdPanes x, int change) {
-        switch (change) {
-            case 0: x.begin(33); break;
-            case 1: x.aim(44, 55); break;
-            case 2: x.pass(3); break;
-            case 3: x.scratch(59, 66); break;
-            case 4: x.mend(0); break;
-            case 5: x.heat(35, 77); break;
-            case 6: x.set(ColdPanes.RIM, 9); break;
-            case 7: Check.write(x, "10/9x8"); x.run(); break;
-            default: x.restore();
-        }
-    }
-
-    /** All that a change records. */
-    private static String picture(ColdPanes x) {
-        StringBuilder text = new StringBuilder();
-        for (int what = 0; what <= 14; what++) {
-            text.append(x.count(what)).append(' ');
-        }
-        for (int cell = 0; cell < 36; cell++) {
-            text.append(x.cell(cell, 0)).append(' ');
-        }
-        for (int joint = 0; joint < 60; joint++) {
-            text.append(x.joint(joint, 2)).append(' ').append(x.joint(joint, 3)).append(' ');
-            text.append(x.joint(joint, 5)).append(' ');
-        }
-        return text.toString();
     }
 
     private static void whatIsNoChange() {
@@ -113,24 +64,29 @@ public final class HistoryTest {
         Check.due("the snapshot stays", x.count(0), 200);
     }
 
-    private static void saveAndRestore() {
+    private static ColdPanes saved() {
         ColdPanes x = Check.still();
         Check.due("restore() without a snapshot", x.restore(), IMPOSSIBLE);
         Check.due("states", x.count(16), 2);
         x.heat(0, 120);
         x.aim(700, 20);
         x.pass(7);
-        String saved = picture(x);
         Check.due("save()", x.save(), 7);
+        return x;
+    }
+
+    private static void saveAndRestore() {
+        String due = Picture.recorded(saved());
+        ColdPanes x = saved();
         x.begin(5);
         x.set(ColdPanes.LEAD, 3);
         Check.write(x, "h9");
         Check.due("restore()", x.restore(), 7);
-        Check.dueTrue("all is as it was saved", picture(x).equals(saved));
+        Check.dueTrue("all is as it was saved", Picture.recorded(x).equals(due));
         Check.due("the pad stays", x.count(15), 2);
         x.pass(90);
         Check.due("restore() once more", x.restore(), 7);
-        Check.dueTrue("the snapshot stayed", picture(x).equals(saved));
+        Check.dueTrue("the snapshot stayed", Picture.recorded(x).equals(due));
         x.pass(2);
         Check.due("save() in its place", x.save(), 9);
         x.begin(5);
