@@ -325,7 +325,7 @@ public final class LookEdgeTest {
         for (int what = 0; what < due.length; what++) {
             Check.due("count(" + what + ")", x.count(what), due[what]);
         }
-        for (int cell : new int[] {0, 17, 35}) {
+        for (int cell : new int[] {0, 1, 17, 34, 35}) {
             ColdPanes y = Check.still();
             y.heat(cell, 1);
             Check.due("count(7)", y.count(7), 601);
